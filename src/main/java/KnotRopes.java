@@ -4,12 +4,14 @@ import java.util.Arrays;
 public final class KnotRopes {
     public static final int BAD = -1, FULL = -2, FINDING = -3, STATE = -4, SPENT = -6, NONE = -9;
 
-    private static final int FIT = 0, NOTHING = 1, BEYOND = 2, UNLIKE = 3, NOUGHT = 4, SIZE = 5;
-    private static final int LAST_FINDING = 5;
+    private static final int NOTHING = 1, BEYOND = 2, UNLIKE = 3, NOUGHT = 4, SIZE = 5, LAST_FINDING = 5;
+
+    /** What is answered instead of a refusal, where there is none. */
+    private static final int FIT = 0;
 
     private static final int ROWS = 6, TEXTS = 4, KEPT = 3;
     private static final int ROW_ROOM = 40, TEXT_ROOM = 80, ROPE_ROOM = 20, MESSAGE_ROOM = 12;
-    private static final int MOST_KNOTS = 6, MOST_LAWS = 6, MOST_PAIRS = 6, MOST_MATTERS = 6;
+    private static final int MOST_KNOTS = 6, MOST_PAIRS = 6, MOST_MATTERS = 6;
     private static final int BOTH_ROOM = 5;
     private static final int MOST_LENGTH = 99, ROOMS = MOST_LENGTH + 1;
     private static final int SIGNS = 10, TAKES_END = 100;
@@ -80,9 +82,9 @@ public final class KnotRopes {
         if (!isRow(r)) {
             return BAD;
         }
-        int unfit = placeUnfit(rows[r].size, i);
-        if (unfit != FIT) {
-            return refuse(unfit);
+        int refusal = refusalOfPlace(rows[r].size, i);
+        if (refusal != FIT) {
+            return refusal;
         }
         told = rows[r].places[i];
         rows[r].places[i] = v;
@@ -93,9 +95,9 @@ public final class KnotRopes {
         if (!isRow(r)) {
             return BAD;
         }
-        int unfit = placeUnfit(rows[r].size, i);
-        if (unfit != FIT) {
-            return refuse(unfit);
+        int refusal = refusalOfPlace(rows[r].size, i);
+        if (refusal != FIT) {
+            return refusal;
         }
         told = rows[r].places[i];
         return 1;
@@ -166,9 +168,9 @@ public final class KnotRopes {
         if (!isText(t)) {
             return BAD;
         }
-        int unfit = placeUnfit(texts[t].size, i);
-        if (unfit != FIT) {
-            return refuse(unfit);
+        int refusal = refusalOfPlace(texts[t].size, i);
+        if (refusal != FIT) {
+            return refusal;
         }
         int was = texts[t].bytes[i];
         texts[t].bytes[i] = (byte) v;
@@ -344,12 +346,9 @@ public final class KnotRopes {
     // ---- 3 ropes told by rows
 
     public int judge(int r) {
-        if (!isRow(r)) {
-            return BAD;
-        }
-        int unfit = knotsUnfit(r, r, ROPE_ROOM);
-        if (unfit != FIT) {
-            return refuse(unfit);
+        int refusal = refusalOfKnots(r, r, r, ROPE_ROOM);
+        if (refusal != FIT) {
+            return refusal;
         }
         Row knots = rows[r];
         int last = START;
@@ -369,20 +368,14 @@ public final class KnotRopes {
     }
 
     public int takes(int r) {
-        if (!isRow(r)) {
-            return BAD;
-        }
-        int unfit = knotsUnfit(r, r, ROPE_ROOM);
-        return unfit != FIT ? refuse(unfit) : theCraft.measure(rows[r]);
+        int refusal = refusalOfKnots(r, r, r, ROPE_ROOM);
+        return refusal != FIT ? refusal : theCraft.measure(rows[r]);
     }
 
     public int says(int r, int to) {
-        if (!isRow(r) || !isRow(to)) {
-            return BAD;
-        }
-        int unfit = knotsUnfit(r, r, ROPE_ROOM);
-        if (unfit != FIT) {
-            return refuse(unfit);
+        int refusal = refusalOfKnots(r, r, to, ROPE_ROOM);
+        if (refusal != FIT) {
+            return refusal;
         }
         theCraft.read(rows[r], line);
         rows[to].become(line);
@@ -411,12 +404,9 @@ public final class KnotRopes {
     // ---- 4 messages
 
     public int shortest(int r, int to) {
-        if (!isRow(r) || !isRow(to)) {
-            return BAD;
-        }
-        int unfit = messageUnfit(r, r);
-        if (unfit != FIT) {
-            return refuse(unfit);
+        int refusal = refusalOfMessage(r, r, to);
+        if (refusal != FIT) {
+            return refusal;
         }
         saying.begin(rows[r], theCraft.signs);
         int taken = saying.leastOfAll();
@@ -429,12 +419,9 @@ public final class KnotRopes {
     }
 
     public int ways(int r) {
-        if (!isRow(r)) {
-            return BAD;
-        }
-        int unfit = messageUnfit(r, r);
-        if (unfit != FIT) {
-            return refuse(unfit);
+        int refusal = refusalOfMessage(r, r, r);
+        if (refusal != FIT) {
+            return refusal;
         }
         saying.begin(rows[r], theCraft.signs);
         toldUpper = saying.howManyWays(theCraft.room());
@@ -442,12 +429,9 @@ public final class KnotRopes {
     }
 
     public int signs(int r, int to) {
-        if (!isRow(r) || !isRow(to)) {
-            return BAD;
-        }
-        int unfit = messageUnfit(r, r);
-        if (unfit != FIT) {
-            return refuse(unfit);
+        int refusal = refusalOfMessage(r, r, to);
+        if (refusal != FIT) {
+            return refusal;
         }
         int taken = swap.search(rows[r]);
         if (taken > theCraft.room()) {
@@ -458,12 +442,9 @@ public final class KnotRopes {
     }
 
     public int change(int r, int to) {
-        if (!isRow(r) || !isRow(to)) {
-            return BAD;
-        }
-        int unfit = messageUnfit(r, r);
-        if (unfit != FIT) {
-            return refuse(unfit);
+        int refusal = refusalOfMessage(r, r, to);
+        if (refusal != FIT) {
+            return refusal;
         }
         saying.begin(rows[r], theCraft.signs);
         for (int untied = 0; untied <= theRope.size; untied++) {
@@ -481,12 +462,9 @@ public final class KnotRopes {
     }
 
     public int both(int r, int q, int to) {
-        if (!isRow(r) || !isRow(q) || !isRow(to)) {
-            return BAD;
-        }
-        int unfit = messageUnfit(r, q);
-        if (unfit != FIT) {
-            return refuse(unfit);
+        int refusal = refusalOfMessage(r, q, to);
+        if (refusal != FIT) {
+            return refusal;
         }
         int taken = bothEnds.search(rows[r], rows[q]);
         if (taken > theCraft.room()) {
@@ -499,12 +477,9 @@ public final class KnotRopes {
     // ---- 5 slips, moths, several ropes
 
     public int slips(int r) {
-        if (!isRow(r)) {
-            return BAD;
-        }
-        int unfit = knotsUnfit(r, r, ROPE_ROOM);
-        if (unfit != FIT) {
-            return refuse(unfit);
+        int refusal = refusalOfKnots(r, r, r, ROPE_ROOM);
+        if (refusal != FIT) {
+            return refusal;
         }
         readings.clear();
         theCraft.read(rows[r], wholeLine);
@@ -521,12 +496,9 @@ public final class KnotRopes {
     }
 
     public int apart(int r, int q) {
-        if (!isRow(r) || !isRow(q)) {
-            return BAD;
-        }
-        int unfit = knotsUnfit(r, q, ROPE_ROOM);
-        if (unfit != FIT) {
-            return refuse(unfit);
+        int refusal = refusalOfKnots(r, q, r, ROPE_ROOM);
+        if (refusal != FIT) {
+            return refusal;
         }
         readings.clear();
         theCraft.read(rows[r], line);
@@ -545,12 +517,9 @@ public final class KnotRopes {
     }
 
     public int lent(int r) {
-        if (!isRow(r)) {
-            return BAD;
-        }
-        int unfit = knotsUnfit(r, r, ROPE_ROOM - 1);
-        if (unfit != FIT) {
-            return refuse(unfit);
+        int refusal = refusalOfKnots(r, r, r, ROPE_ROOM - 1);
+        if (refusal != FIT) {
+            return refusal;
         }
         Row rest = rows[r];
         int found = 0;
@@ -575,12 +544,9 @@ public final class KnotRopes {
     }
 
     public int moths(int r, int i, int to) {
-        if (!isRow(r) || !isRow(to)) {
-            return BAD;
-        }
-        int unfit = knotsUnfit(r, r, ROPE_ROOM);
-        if (unfit != FIT) {
-            return refuse(unfit);
+        int refusal = refusalOfKnots(r, r, to, ROPE_ROOM);
+        if (refusal != FIT) {
+            return refusal;
         }
         if (i < 0 || i > rows[r].size) {
             return refuse(BEYOND);
@@ -591,12 +557,9 @@ public final class KnotRopes {
     }
 
     public int cuts(int r) {
-        if (!isRow(r)) {
-            return BAD;
-        }
-        int unfit = knotsUnfit(r, r, ROPE_ROOM);
-        if (unfit != FIT) {
-            return refuse(unfit);
+        int refusal = refusalOfKnots(r, r, r, ROPE_ROOM);
+        if (refusal != FIT) {
+            return refusal;
         }
         int found = 0;
         int first = NONE;
@@ -612,12 +575,9 @@ public final class KnotRopes {
     }
 
     public int packs(int r) {
-        if (!isRow(r)) {
-            return BAD;
-        }
-        int unfit = rowsUnfit(rows[r], rows[r], MOST_MATTERS, TAKES_END);
-        if (unfit != FIT) {
-            return refuse(unfit);
+        int refusal = refusalOfRows(r, r, r, MOST_MATTERS, TAKES_END);
+        if (refusal != FIT) {
+            return refusal;
         }
         for (int i = 0; i < rows[r].size; i++) {
             if (rows[r].places[i] > theCraft.room()) {
@@ -739,29 +699,35 @@ public final class KnotRopes {
         return t >= 0 && t < TEXTS;
     }
 
-    private static int placeUnfit(int size, int i) {
+    private int refusalOfPlace(int size, int i) {
         if (size < 0) {
-            return NOTHING;
+            return refuse(NOTHING);
         }
-        return i < 0 || i >= size ? BEYOND : FIT;
+        return i < 0 || i >= size ? refuse(BEYOND) : FIT;
     }
 
-    private int knotsUnfit(int r, int q, int most) {
-        return rowsUnfit(rows[r], rows[q], most, theCraft.knotCount);
+    private int refusalOfKnots(int r, int q, int to, int most) {
+        return refusalOfRows(r, q, to, most, theCraft.knotCount);
     }
 
-    private int messageUnfit(int r, int q) {
-        return rowsUnfit(rows[r], rows[q], MESSAGE_ROOM, SIGNS);
+    private int refusalOfMessage(int r, int q, int to) {
+        return refusalOfRows(r, q, to, MESSAGE_ROOM, SIGNS);
     }
 
-    private static int rowsUnfit(Row a, Row b, int most, int end) {
+    /** Two ROWS (perhaps the same) of so many at most, of numbers from 0 up to an end, and one that something comes to. */
+    private int refusalOfRows(int r, int q, int to, int most, int end) {
+        if (!isRow(r) || !isRow(q) || !isRow(to)) {
+            return BAD;
+        }
+        Row a = rows[r];
+        Row b = rows[q];
         if (a.size < 0 || b.size < 0) {
-            return NOTHING;
+            return refuse(NOTHING);
         }
         if (a.size > most || b.size > most) {
-            return SIZE;
+            return refuse(SIZE);
         }
-        return a.isBelow(end) && b.isBelow(end) ? FIT : UNLIKE;
+        return a.isBelow(end) && b.isBelow(end) ? FIT : refuse(UNLIKE);
     }
 
     private void readWithout(Row knots, int i) {
@@ -1403,12 +1369,13 @@ public final class KnotRopes {
      * so its SIGN isn't settled) or SHUT (it ended a PAIR, or there is none yet).
      */
     private static final class Saying {
-        static final int OPEN = 0, SHUT = 1;
-        /** PAIRS can make a ROPE too long only for MESSAGES above half a ROPE: only then they are counted. */
-        static final int PAIR_COUNTS = 10, UNCOUNTED_SIZE = ROPE_ROOM / 2;
+        /** A cell that is SHUT comes so many behind the one that is OPEN. */
+        static final int SHUT = LASTS;
+        /** PAIRS are counted for MESSAGES above half a ROPE alone: no other ROPE can get too long by them. */
+        static final int PAIR_COUNTS = ROPE_ROOM / 2;
         static final int PER_PAIRS = 2 * LASTS, PER_SETTLED = PAIR_COUNTS * PER_PAIRS;
         static final int CELLS = (MESSAGE_ROOM + 1) * PER_SETTLED;
-        static final int BEGINNING = SHUT * LASTS + START;
+        static final int BEGINNING = SHUT + START;
         static final int NOWHERE = -1;
 
         private final Craft craft;
@@ -1427,13 +1394,26 @@ public final class KnotRopes {
         void begin(Row what, int[] signsOfKnots) {
             message.become(what);
             System.arraycopy(signsOfKnots, 0, signs, 0, MOST_KNOTS);
-            pairCounts = message.size <= UNCOUNTED_SIZE ? 1 : ROPE_ROOM - message.size + 1;
+            boolean neverTooLong = message.size + placesForPairs() <= ROPE_ROOM;
+            pairCounts = neverTooLong ? 1 : ROPE_ROOM - message.size + 1;
             for (int settled = message.size; settled >= 0; settled--) {
                 int from = settled * PER_SETTLED;
                 for (int cell = from; cell < from + pairCounts * PER_PAIRS; cell++) {
                     least[cell] = canBe(cell) ? leastBy(cell) : NEVER;
                 }
             }
+        }
+
+        private int placesForPairs() {
+            int pairSigns = 0;
+            for (int k = 0; k < craft.knotCount; k++) {
+                pairSigns |= craft.pairsBegun[k];
+            }
+            int many = 0;
+            for (int i = 0; i < message.size; i++) {
+                many += pairSigns >> message.places[i] & 1;
+            }
+            return many;
         }
 
         int leastOfAll() {
@@ -1448,7 +1428,7 @@ public final class KnotRopes {
         int ending(int cell) {
             int settled = cell / PER_SETTLED;
             int last = cell % LASTS;
-            if (cell / LASTS % 2 == SHUT) {
+            if (isShut(cell)) {
                 return settled == message.size ? craft.endMore[last] : NEVER;
             }
             boolean said = settled + 1 == message.size && signs[last] == message.places[settled];
@@ -1462,8 +1442,8 @@ public final class KnotRopes {
             if (settled >= message.size || craft.isBarred(last, k)) {
                 return NOWHERE;
             }
-            if (cell / LASTS % 2 == SHUT) {
-                return cell - LASTS - last + k;
+            if (isShut(cell)) {
+                return cell - SHUT - last + k;
             }
             int paired = craft.pairedSign(last, k);
             if (paired == Craft.NO_PAIR) {
@@ -1475,7 +1455,7 @@ public final class KnotRopes {
             if (paired != message.places[settled] || pairs >= pairCounts) {
                 return NOWHERE;
             }
-            return cell + PER_SETTLED + morePairs * PER_PAIRS + LASTS - last + k;
+            return cell + PER_SETTLED + morePairs * PER_PAIRS + SHUT - last + k;
         }
 
         /** Appends the first of the ROPES that go on from a cell and TAKE least. */
@@ -1538,6 +1518,10 @@ public final class KnotRopes {
             }
         }
 
+        private static boolean isShut(int cell) {
+            return cell % PER_PAIRS >= SHUT;
+        }
+
         private static int spot(int cell) {
             return cell % (2 * PER_SETTLED) * ROOMS;
         }
@@ -1552,7 +1536,7 @@ public final class KnotRopes {
             if (last >= craft.knotCount) {
                 return false;
             }
-            if (cell / LASTS % 2 == SHUT) {
+            if (isShut(cell)) {
                 return settled > 0 && (craft.pairsEnded[last] >> message.places[settled - 1] & 1) != 0;
             }
             if (settled >= message.size) {
@@ -1617,7 +1601,11 @@ public final class KnotRopes {
         /** Goes no deeper than there are KNOTS. */
         private void assign(int k, int given) {
             if (k >= craft.knotCount) {
-                weigh();
+                saying.begin(message, signsNow);
+                if (saying.leastOfAll() < leastYet) {
+                    leastYet = saying.leastOfAll();
+                    best.become(whose);
+                }
                 return;
             }
             for (int owner = 0; owner < craft.knotCount; owner++) {
@@ -1643,14 +1631,6 @@ public final class KnotRopes {
         private boolean doesAsWell(int a, int b) {
             boolean needless = (signBits >> a & 1) == 0 && (signBits >> b & 1) == 0;
             return a == b || needless;
-        }
-
-        private void weigh() {
-            saying.begin(message, signsNow);
-            if (saying.leastOfAll() < leastYet) {
-                leastYet = saying.leastOfAll();
-                best.become(whose);
-            }
         }
     }
 

@@ -10,7 +10,7 @@ import java.util.TreeMap;
 
 /** Random runs of calls, each answered by the class and by a slow model that is written straight from the document. */
 public final class ModelTest {
-    private static final int RUNS = 2500, CALLS = 160;
+    private static final int RUNS = 1500, CALLS = 160;
 
     public static void main(String[] args) {
         int runs = args.length > 0 ? Integer.parseInt(args[0]) : RUNS;
@@ -208,13 +208,26 @@ public final class ModelTest {
             int lot = random.nextInt(12);
             if (lot < 3) {
                 fillRow(r, some(0, random.nextInt(5) == 0 ? 13 : 5), 10);
-            } else if (lot < 11) {
+            } else if (lot < 10) {
                 int n = some(0, random.nextInt(3) == 0 ? 20 : 6);
                 int seed = some(1, 1000000);
                 due("lots(" + n + ", " + seed + ", " + r + ")", x.lots(n, seed, r), m.lots(n, seed, r));
                 due("says(" + r + ", " + r + ")", x.says(r, r), m.says(r, r));
+            } else if (!m.pairs.isEmpty()) {
+                longMessage(r);
             }
             return r;
+        }
+
+        /** Eleven or twelve SIGNS, most of them by PAIRS, so that twenty KNOTS may not be enough. */
+        void longMessage(int r) {
+            int size = some(11, 12);
+            due("row(" + r + ", " + size + ")", x.row(r, size), m.row(r, size));
+            for (int i = 0; i < size; i++) {
+                int[] pair = m.pairs.get(random.nextInt(m.pairs.size()));
+                int v = random.nextInt(4) > 0 ? pair[2] : m.signs.get(random.nextInt(m.signs.size()));
+                due("lay(" + r + ", " + i + ", " + v + ")", x.lay(r, i, v), m.lay(r, i, v));
+            }
         }
 
         void step() {

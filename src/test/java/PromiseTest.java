@@ -1040,6 +1040,9 @@ public final class PromiseTest {
         dueAsked("slips(0): it still reads so", x.slips(0), 1, 3);
         row(0, 0, 0, 1);
         dueAsked("slips(0)", x.slips(0), 2, 3);
+        begin(34, "r9900k11k12");
+        row(0, 0, 1, 0, 1, 0, 1, 0, 1, 0, 1, 0, 1, 0, 1, 0, 1, 0, 1, 0, 1);
+        dueAsked("slips(0): twenty unlike ones", x.slips(0), 20, 0);
         begin(34, "r0500k91");
         row(0, 0, 0);
         dueAsked("slips(0): right or not", x.slips(0), 1, 0);
@@ -1072,6 +1075,11 @@ public final class PromiseTest {
         dueFinding("apart(2, 3)", x.apart(2, 3), SIZE);
         dueFinding("apart(0, 3)", x.apart(0, 3), UNLIKE);
         dueFinding("apart(3, 0)", x.apart(3, 0), UNLIKE);
+        begin(35, "r9900k11k12k13");
+        row(0, 0, 1, 0, 1, 0, 1, 0, 1, 0, 1, 0, 1, 0, 1, 0, 1, 0, 1, 0, 1);
+        row(1, 2, 0, 1, 0, 1, 0, 1, 0, 1, 0, 1, 0, 1, 0, 1, 0, 1, 0, 1, 0);
+        due("apart(0, 1): the last one slipped, and the first one", x.apart(0, 1), 0);
+        due("apart(1, 0)", x.apart(1, 0), 0);
         begin(35, "r9900k11k12k14y014");
         row(0, 2);
         row(1, 0, 1, 1);
@@ -1191,6 +1199,7 @@ public final class PromiseTest {
         due("lots(0, 77, 1)", x.lots(0, 77, 1), 0);
         dueRow(1);
         due("lots(20, 2147483646, 1)", x.lots(20, 2147483646, 1), 20);
+        due("lots(20, 1, 1)", x.lots(20, 1, 1), 20);
         due("lots(21, 1, 1)", x.lots(21, 1, 1), BAD);
         due("lots(-1, 1, 1)", x.lots(-1, 1, 1), BAD);
         due("lots(1, 0, 1)", x.lots(1, 0, 1), BAD);
