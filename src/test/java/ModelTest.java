@@ -10,7 +10,7 @@ import java.util.TreeMap;
 
 /** Random runs of calls, each answered by the class and by a slow model that is written straight from the document. */
 public final class ModelTest {
-    private static final int RUNS = 1500, CALLS = 160;
+    private static final int RUNS = 800, CALLS = 160;
 
     public static void main(String[] args) {
         int runs = args.length > 0 ? Integer.parseInt(args[0]) : RUNS;
