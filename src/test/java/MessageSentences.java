@@ -27,22 +27,12 @@ final class MessageSentences extends SentenceBench {
         dueMissing(5);
     }
 
-    private static int[] times(int many, int v) {
-        int[] all = new int[many];
-        java.util.Arrays.fill(all, v);
-        return all;
-    }
-
     private void shortestOf(String craft, int[] message, int want, int... knots) {
         anew(craft);
         row(0, message);
         due("shortest(0, 1)", want);
         dueRow(1, knots);
         dueRow(0, message);
-    }
-
-    private static int[] of(int... signs) {
-        return signs;
     }
 
     private void shortest() {

@@ -32,16 +32,6 @@ final class RopeSentences extends SentenceBench {
         dueRow(1, signs);
     }
 
-    private static int[] of(int... knots) {
-        return knots;
-    }
-
-    private static int[] times(int many, int v) {
-        int[] all = new int[many];
-        java.util.Arrays.fill(all, v);
-        return all;
-    }
-
     private void kinds() {
         sentence(TERMS, "KINDS of KNOTS: 0 KNOT, 1 LOOP (a KNOT), 2 BEND (a KNOT), 3 HITCH (a LOOP), 4 SHEEP (a BEND), "
             + "5 WILL (a KNOT).");

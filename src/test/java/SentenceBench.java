@@ -1,6 +1,7 @@
 import java.lang.reflect.InvocationTargetException;
 import java.lang.reflect.Method;
 import java.util.ArrayList;
+import java.util.Arrays;
 import java.util.HashMap;
 import java.util.List;
 import java.util.Map;
@@ -24,6 +25,7 @@ abstract class SentenceBench {
 
     /** The document leaves free what an object answers later. */
     private static final int MOST_CALLS = 512;
+    private static final int MOST_PLACES = 40;
     private static final Map<String, Method> FACE = face();
 
     private final List<String> calls = new ArrayList<>();
@@ -115,6 +117,16 @@ abstract class SentenceBench {
 
     // ---- what is made ready
 
+    static int[] of(int... values) {
+        return values;
+    }
+
+    static int[] times(int many, int v) {
+        int[] all = new int[many];
+        Arrays.fill(all, v);
+        return all;
+    }
+
     void tell(int t, String text) {
         call("text(" + t + ", " + text.length() + ")");
         for (int i = 0; i < text.length(); i++) {
@@ -204,7 +216,7 @@ abstract class SentenceBench {
     void dueRow(int r, int... values) {
         KnotRopes twin = twin();
         int size = 0;
-        while (callOn(twin, "at(" + r + ", " + size + ")") == 1) {
+        while (size <= MOST_PLACES && callOn(twin, "at(" + r + ", " + size + ")") == 1) {
             long got = callOn(twin, "asked()");
             if (size < values.length) {
                 same("place " + size + " of row " + r, got, values[size]);

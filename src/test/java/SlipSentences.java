@@ -17,16 +17,6 @@ final class SlipSentences extends SentenceBench {
         lotsEnd();
     }
 
-    private static int[] of(int... values) {
-        return values;
-    }
-
-    private static int[] times(int many, int v) {
-        int[] all = new int[many];
-        java.util.Arrays.fill(all, v);
-        return all;
-    }
-
     private static int[] byTurns(int many) {
         int[] all = new int[many];
         for (int i = 0; i < many; i++) {
