@@ -304,6 +304,10 @@ final class SlipSentences extends SentenceBench {
         tells("packs", 3, 1, 5, 1, 9, 9);
         tells("packs", 6, 1, 9, 9, 9, 9, 9, 9);
         tells("packs", 2, 33, 5, 2, 2, 2, 4, 5);
+        // Without any, though there were some ahead.
+        row(0, 9);
+        told("packs(0)", 1, 1);
+        tells("packs", 0, 0);
         // Only those that are there now.
         full();
         row(0, 99, 99, 99, 99, 99, 99);
